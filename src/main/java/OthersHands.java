@@ -600,7 +600,7 @@ public final class OthersHands {
         int reach(int thing) {
             int all = 0;
             int layer = 1 << thing;
-            for (int step = 0; step <= depth; step++) {
+            for (int step = 0; step <= depth && layer != 0; step++) {
                 all |= layer;
                 layer = pages.behind(layer, tools == 1);
             }
@@ -638,7 +638,7 @@ public final class OthersHands {
         /** The fewest steps back from a thing to hands of one of some men, DEPTH or not; NONE. */
         int fewestSteps(int thing, int men) {
             int layer = 1 << thing;
-            for (int step = 0; step < THINGS; step++) {
+            for (int step = 0; step < THINGS && layer != 0; step++) {
                 if ((pages.handsOf(layer) & men) != 0) {
                     return step;
                 }
@@ -964,10 +964,6 @@ public final class OthersHands {
             return least[singles];
         }
 
-        private int cost(int man, int other) {
-            return Integer.bitCount(taint[man] ^ taint[other]);
-        }
-
         /** Finds the least sum for each even set of single men, smaller sets first. */
         private void sumUp(int singles) {
             for (int men = 1; men <= singles; men++) {
@@ -984,7 +980,8 @@ public final class OthersHands {
         }
 
         private int sumWith(int men, int man, int other) {
-            return cost(man, other) + least[men & ~(1 << man) & ~(1 << other)];
+            int more = Integer.bitCount(taint[man] ^ taint[other]);
+            return more + least[men & ~(1 << man) & ~(1 << other)];
         }
 
         /** The least partner for the least of some men by which the sum is least. */
