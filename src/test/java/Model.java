@@ -102,7 +102,7 @@ final class Model {
         return all;
     }
 
-    /** The makings that the pad tells; the last one is the place of the fault, as a text, if there is one. */
+    /** THE FAULT of the pad, or NONE; the makings that it tells ahead of it are added to a list. */
     private int read(List<String> makings) {
         String begun = "";
         int asks = 0;
