@@ -45,34 +45,8 @@ public final class PromisesTest {
         CHECKS.due(call, want, got);
     }
 
-    private static void write(OthersHands x, String text) {
-        for (int i = 0; i < text.length(); i++) {
-            x.say(text.charAt(i));
-        }
-    }
-
-    private static OthersHands with(String text) {
-        OthersHands x = new OthersHands();
-        write(x, text);
-        return x;
-    }
-
-    private static OthersHands bookOf(String text) {
-        OthersHands x = with(text);
-        CHECKS.holds("book of " + text + " is taken", x.book() >= 0);
-        return x;
-    }
-
     private static void dueFault(String text, int want) {
-        due("fault of " + text, want, with(text).fault());
-    }
-
-    private static String times(int n, String text) {
-        StringBuilder all = new StringBuilder();
-        for (int i = 0; i < n; i++) {
-            all.append(text);
-        }
-        return all.toString();
+        due("fault of " + text, want, Books.with(text).fault());
     }
 
     private static void newObject() {
@@ -116,12 +90,12 @@ public final class PromisesTest {
     }
 
     private static void wipe() {
-        OthersHands x = with("A;BC");
+        OthersHands x = Books.with("A;BC");
         due("wipe", 4, x.wipe());
         due("wipe again", 0, x.wipe());
         due("wipe: fault", NONE, x.fault());
         due("wipe: say", 1, x.say('B'));
-        OthersHands full = with(times(60, "A"));
+        OthersHands full = Books.with(Books.times(60, "A"));
         due("wipe 60", 60, full.wipe());
         due("wipe: say behind 60", 1, full.say('A'));
     }
@@ -168,7 +142,7 @@ public final class PromisesTest {
         // Nothing is ahead of the first thing, so + can not stand in its making.
         dueFault("+A;", 0);
         dueFault("+", 0);
-        OthersHands x = with("A;B");
+        OthersHands x = Books.with("A;B");
         due("fault once", 3, x.fault());
         due("fault changes nothing", 3, x.fault());
         due("fault takes no sign", 3, x.told(0));
@@ -179,22 +153,22 @@ public final class PromisesTest {
         dueFault("ABC?;", 3);
         dueFault("AB?;", NONE);
         dueFault("AB?C;", 3);
-        dueFault(times(10, "A;"), NONE);
-        dueFault(times(11, "A;"), 20);
-        dueFault(times(10, "A;") + ";", 20);
-        dueFault(times(10, "A;") + "+", 20);
-        dueFault(times(4, "?;"), NONE);
-        dueFault(times(5, "?;"), 8);
-        dueFault(times(4, "A?;") + "B?;", 13);
-        dueFault(times(9, "A;") + "hi+iA;", NONE);
-        dueFault(times(9, "A;") + "jA;", 18);
-        String signs53 = "ABC;" + times(7, "a+aABC;");
+        dueFault(Books.times(10, "A;"), NONE);
+        dueFault(Books.times(11, "A;"), 20);
+        dueFault(Books.times(10, "A;") + ";", 20);
+        dueFault(Books.times(10, "A;") + "+", 20);
+        dueFault(Books.times(4, "?;"), NONE);
+        dueFault(Books.times(5, "?;"), 8);
+        dueFault(Books.times(4, "A?;") + "B?;", 13);
+        dueFault(Books.times(9, "A;") + "hi+iA;", NONE);
+        dueFault(Books.times(9, "A;") + "jA;", 18);
+        String signs53 = "ABC;" + Books.times(7, "a+aABC;");
         dueFault(signs53 + "b+hABC;", NONE);
         dueFault(signs53 + "ab+hABC", 60);
     }
 
     private static void book() {
-        OthersHands x = with("A;aB");
+        OthersHands x = Books.with("A;aB");
         due("book with a fault", NO, x.book());
         due("book with a fault: signs stay", 4, x.told(0));
         x.say(';');
@@ -214,7 +188,7 @@ public final class PromisesTest {
         due("book: sights stay", 1, x.told(5));
         due("book: things stay", 2, x.told(1));
         x.wipe();
-        write(x, "F;aE;aD;");
+        Books.write(x, "F;aE;aD;");
         due("book again", 3, x.book());
         due("book: hands", 32, x.thing(0, 0));
         due("book: loaves go", 0, x.told(20) + x.told(21) + x.told(22));
@@ -226,11 +200,11 @@ public final class PromisesTest {
         due("book of no signs", 0, x.book());
         due("book of no signs: things", 0, x.told(1));
         due("book of no signs: thing 0", UNKNOWN, x.thing(0, 0));
-        due("book of 10 things", 10, with(times(10, "A;")).book());
+        due("book of 10 things", 10, Books.with(Books.times(10, "A;")).book());
     }
 
     private static void thing() {
-        OthersHands x = bookOf("A;BF;ab+aC?;+b?;cD;");
+        OthersHands x = Books.bookOf("A;BF;ab+aC?;+b?;cD;");
         int[][] rows = {
             {1, NONE, NONE, NONE, 0},
             {34, NONE, NONE, NONE, 0},
@@ -306,7 +280,7 @@ public final class PromisesTest {
     }
 
     private static void loaves() {
-        OthersHands x = bookOf("A;B;");
+        OthersHands x = Books.bookOf("A;B;");
         due("loaves: was", 0, x.loaves(1, 9));
         due("loaves: was 9", 9, x.loaves(1, 0));
         due("loaves: was 0", 0, x.loaves(1, 4));
@@ -320,7 +294,7 @@ public final class PromisesTest {
     }
 
     private static void touched() {
-        OthersHands chain = bookOf("A;aB;bC;cD;");
+        OthersHands chain = Books.bookOf("A;aB;bC;cD;");
         int[] byDepth = {8, 12, 14, 15, 15, 15, 15, 15, 15, 15};
         for (int depth = 0; depth < 10; depth++) {
             chain.set(0, depth);
@@ -332,18 +306,18 @@ public final class PromisesTest {
         due("barred: partner too", 13, chain.touched(3, 1));
         due("barred: partner of one who is touched too", 11, chain.touched(1, 1));
 
-        OthersHands shortcut = bookOf("A;aB;bC;acD;");
+        OthersHands shortcut = Books.bookOf("A;aB;bC;acD;");
         shortcut.set(0, 1);
         due("touched by the shorter way", 13, shortcut.touched(3, 0));
 
-        OthersHands tools = bookOf("A;aB;C;c+bD;");
+        OthersHands tools = Books.bookOf("A;aB;C;c+bD;");
         due("touched: tools do not count", 12, tools.touched(3, 0));
         tools.set(1, 1);
         due("touched: tools count", 15, tools.touched(3, 0));
         tools.set(0, 1);
         due("touched: tools at depth 1", 14, tools.touched(3, 0));
 
-        OthersHands asked = bookOf("?;aB?;");
+        OthersHands asked = Books.bookOf("?;aB?;");
         due("touched: ? is nobody", 0, asked.touched(0, 1));
         due("touched: told beside ?", 2, asked.touched(1, 1));
         due("touched: no such thing", UNKNOWN, asked.touched(2, 0));
@@ -354,7 +328,7 @@ public final class PromisesTest {
     }
 
     private static void byTenths() {
-        OthersHands x = bookOf("ABC;D;abE;");
+        OthersHands x = Books.bookOf("ABC;D;abE;");
         int[] mixed = {15, 15, 8, 8, 8, 8, 0, 0, 0, 0, 0};
         int[] thirds = {7, 7, 7, 7, 0, 0, 0, 0, 0, 0, 0};
         for (int tenths = 0; tenths <= 10; tenths++) {
@@ -371,7 +345,7 @@ public final class PromisesTest {
     }
 
     private static void may() {
-        OthersHands x = bookOf("A;aB;bC;cD;E;");
+        OthersHands x = Books.bookOf("A;aB;bC;cD;E;");
         x.set(0, 1);
         due("may of 0", 28, x.may(0, 0));
         due("taint of 0", 3, x.may(0, 1));
@@ -390,7 +364,7 @@ public final class PromisesTest {
     }
 
     private static void near() {
-        OthersHands x = bookOf("A;aB;bC;a+cD;");
+        OthersHands x = Books.bookOf("A;aB;bC;a+cD;");
         x.set(0, 0);
         due("near: own hands", 0, x.near(3, 3));
         due("near: 1", 1, x.near(3, 0));
@@ -406,7 +380,7 @@ public final class PromisesTest {
         }
         due("near: thing 4", UNKNOWN, x.near(4, 0));
         due("near: thing -1", UNKNOWN, x.near(-1, 0));
-        due("near: 9 steps", 9, bookOf("A;aB;bB;cB;dB;eB;fB;gB;hB;iB;").near(9, 0));
+        due("near: 9 steps", 9, Books.bookOf("A;aB;bB;cB;dB;eB;fB;gB;hB;iB;").near(9, 0));
     }
 
     private static void dueShare(OthersHands x, int thing, int man, int upper, int lower) {
@@ -415,7 +389,7 @@ public final class PromisesTest {
     }
 
     private static void share() {
-        OthersHands x = bookOf("AB;C?;abD;cE;+aF;?;bfA;");
+        OthersHands x = Books.bookOf("AB;C?;abD;cE;+aF;?;bfA;");
         dueShare(x, 0, 0, 1, 2);
         dueShare(x, 1, 2, 1, 1);
         dueShare(x, 2, 0, 1, 4);
@@ -443,7 +417,7 @@ public final class PromisesTest {
     }
 
     private static void shareExactly() {
-        OthersHands x = bookOf("ABC;D;abE;bcE;cdE;deE;efE;fgE;ghE;hiE;");
+        OthersHands x = Books.bookOf("ABC;D;abE;bcE;cdE;deE;efE;fgE;ghE;hiE;");
         int[][] of0 = {{1, 3}, {0, 1}, {1, 6}, {1, 12}, {1, 8}, {5, 48}, {11, 96}, {7, 64}, {43, 384}, {85, 768}};
         int[][] of3 = {{0, 1}, {1, 1}, {1, 2}, {3, 4}, {5, 8}, {11, 16}, {21, 32}, {43, 64}, {85, 128}, {171, 256}};
         for (int t = 0; t < 10; t++) {
@@ -454,7 +428,7 @@ public final class PromisesTest {
     }
 
     private static void seen() {
-        OthersHands x = bookOf("A;");
+        OthersHands x = Books.bookOf("A;");
         for (int man : WRONG_MEN) {
             due("seen: man " + man, UNKNOWN, x.seen(man, 0));
         }
@@ -470,7 +444,7 @@ public final class PromisesTest {
     }
 
     private static void forget() {
-        OthersHands x = bookOf("A;");
+        OthersHands x = Books.bookOf("A;");
         due("forget none", 0, x.forget());
         x.seen(0, 0);
         x.seen(1, 0);
@@ -482,7 +456,7 @@ public final class PromisesTest {
     }
 
     private static void filled() {
-        OthersHands two = bookOf("AB?;?;");
+        OthersHands two = Books.bookOf("AB?;?;");
         due("filled: ways", 24, two.filled(-1));
         due("filled: first of AB?", 2, two.filled(0));
         due("filled: first of ?", 0, two.filled(1));
@@ -491,10 +465,10 @@ public final class PromisesTest {
         due("filled(most)", NONE, two.filled(MOST));
         due("filled(least)", NONE, two.filled(LEAST));
         due("filled: ? stays", 1, two.thing(0, 4));
-        due("filled without ?", 1, bookOf("A;").filled(-1));
-        due("filled: 6 by 6 by 6 by 6", 1296, bookOf("?;?;?;?;").filled(-1));
+        due("filled without ?", 1, Books.bookOf("A;").filled(-1));
+        due("filled: 6 by 6 by 6 by 6", 1296, Books.bookOf("?;?;?;?;").filled(-1));
 
-        OthersHands x = bookOf("?;aB;b+aC;");
+        OthersHands x = Books.bookOf("?;aB;b+aC;");
         x.seen(0, 1);
         due("filled: by a sight", 5, x.filled(-1));
         due("filled: first by a sight", 1, x.filled(0));
@@ -513,7 +487,7 @@ public final class PromisesTest {
         due("filled: a sight against told hands", 0, x.filled(-1));
         due("filled: no first", NONE, x.filled(0));
 
-        OthersHands tools = bookOf("?;B;b+aC;");
+        OthersHands tools = Books.bookOf("?;B;b+aC;");
         tools.seen(0, 2);
         due("filled: tools do not count", 6, tools.filled(-1));
         tools.set(1, 1);
@@ -521,7 +495,7 @@ public final class PromisesTest {
     }
 
     private static void sure() {
-        OthersHands x = bookOf("AB?;aC;");
+        OthersHands x = Books.bookOf("AB?;aC;");
         x.join(2, 3);
         x.join(4, 5);
         due("sure", 3, x.sure(0, 0));
@@ -554,7 +528,7 @@ public final class PromisesTest {
     }
 
     private static void fed() {
-        OthersHands x = bookOf("A;B;");
+        OthersHands x = Books.bookOf("A;B;");
         dueFed(x, NONE, NONE, NONE, NONE, NONE, NONE);
         x.loaves(0, 1);
         dueFed(x, NONE, 0, NONE, NONE, NONE, NONE);
@@ -572,7 +546,7 @@ public final class PromisesTest {
         due("fed(most)", NONE, x.fed(MOST));
         due("fed: nothing is eaten", 3, x.told(20));
 
-        OthersHands last = bookOf("B;F;");
+        OthersHands last = Books.bookOf("B;F;");
         last.loaves(0, 1);
         last.loaves(1, 9);
         dueFed(last, 1, 1, 1, 1, 1, 0);
@@ -581,20 +555,20 @@ public final class PromisesTest {
     }
 
     private static void lack() {
-        OthersHands x = bookOf("F;");
+        OthersHands x = Books.bookOf("F;");
         x.loaves(0, 2);
         due("lack: least as bits", 7, x.lack());
         x.loaves(0, 5);
         due("lack: the maker alone", 32, x.lack());
         x.join(5, 0);
         due("lack: his partner", 1, x.lack());
-        OthersHands none = bookOf("A;B;");
+        OthersHands none = Books.bookOf("A;B;");
         none.loaves(0, 9);
         none.loaves(1, 9);
         due("lack: nobody", NONE, none.lack());
         none.join(0, 1);
         due("lack: one of two partners", 1, none.lack());
-        OthersHands all = bookOf("A;B;");
+        OthersHands all = Books.bookOf("A;B;");
         all.loaves(0, 3);
         all.loaves(1, 2);
         due("lack: all together", 63, all.lack());
@@ -631,7 +605,7 @@ public final class PromisesTest {
     }
 
     private static void washed() {
-        OthersHands x = bookOf("A;aB;bC;c+aD;");
+        OthersHands x = Books.bookOf("A;aB;bC;c+aD;");
         due("washed: own hands", 3, x.washed(2, 2));
         due("washed: 1 step back", 2, x.washed(2, 1));
         due("washed: 2 steps back", 1, x.washed(2, 0));
@@ -665,11 +639,11 @@ public final class PromisesTest {
 
     private static void married() {
         dueMarried(new OthersHands(), 0, 1, 0, 3, 2, 5, 4);
-        dueMarried(bookOf("A;B;"), 2, 1, 0, 3, 2, 5, 4);
-        dueMarried(bookOf("AF;"), 0, 5, 2, 1, 4, 3, 0);
-        dueMarried(bookOf("ABF;"), 1, 1, 0, 3, 2, 5, 4);
-        dueMarried(bookOf("AD;BE;CF;"), 0, 3, 4, 5, 0, 1, 2);
-        OthersHands x = bookOf("ABC;D;");
+        dueMarried(Books.bookOf("A;B;"), 2, 1, 0, 3, 2, 5, 4);
+        dueMarried(Books.bookOf("AF;"), 0, 5, 2, 1, 4, 3, 0);
+        dueMarried(Books.bookOf("ABF;"), 1, 1, 0, 3, 2, 5, 4);
+        dueMarried(Books.bookOf("AD;BE;CF;"), 0, 3, 4, 5, 0, 1, 2);
+        OthersHands x = Books.bookOf("ABC;D;");
         x.join(0, 5);
         dueMarried(x, 1, 5, 2, 1, 4, 3, 0);
         due("married(6)", NONE, x.married(6));
@@ -680,7 +654,7 @@ public final class PromisesTest {
         dueMarried(x, 1, 5, 3, 4, 1, 2, 0);
         x.join(2, 4);
         dueMarried(x, 0, 5, 3, 4, 1, 2, 0);
-        OthersHands depth = bookOf("A;aB;bC;");
+        OthersHands depth = Books.bookOf("A;aB;bC;");
         depth.set(0, 0);
         due("married at depth 0", 3, depth.married(-1));
         depth.set(0, 2);
@@ -689,7 +663,7 @@ public final class PromisesTest {
 
     private static void days() {
         // By seed 0 the men 2, 2, 2 and 4 are drawn.
-        OthersHands x = bookOf("C;A;");
+        OthersHands x = Books.bookOf("C;A;");
         x.loaves(0, 9);
         x.loaves(1, 2);
         due("days: 1 day", 1, x.days(0, 1, -1));
@@ -715,8 +689,8 @@ public final class PromisesTest {
     }
 
     private static void image() {
-        OthersHands x = bookOf("A?;aB;");
-        write(x, "AB");
+        OthersHands x = Books.bookOf("A?;aB;");
+        Books.write(x, "AB");
         x.loaves(1, 3);
         x.seen(4, 0);
         x.join(0, 5);
@@ -728,7 +702,7 @@ public final class PromisesTest {
         due("image(most)", OUTSIDE, x.image(MOST));
         due("image(1)", 1, x.image(1));
         x.wipe();
-        write(x, "F;");
+        Books.write(x, "F;");
         x.book();
         x.part(5);
         x.join(1, 2);
@@ -766,7 +740,7 @@ public final class PromisesTest {
     }
 
     private static void restore() {
-        OthersHands x = bookOf("A;");
+        OthersHands x = Books.bookOf("A;");
         due("restore(2)", OUTSIDE, x.restore(2));
         due("restore(-1)", OUTSIDE, x.restore(-1));
         due("restore(0) that was not kept", STATE, x.restore(0));
@@ -786,7 +760,7 @@ public final class PromisesTest {
     }
 
     private static void told() {
-        OthersHands x = bookOf("A;B;");
+        OthersHands x = Books.bookOf("A;B;");
         x.say('A');
         x.loaves(1, 6);
         due("told(0)", 1, x.told(0));
@@ -797,7 +771,7 @@ public final class PromisesTest {
         for (int what : wrong) {
             due("told(" + what + ")", OUTSIDE, x.told(what));
         }
-        OthersHands ten = bookOf(times(10, "A;"));
+        OthersHands ten = Books.bookOf(Books.times(10, "A;"));
         ten.loaves(9, 9);
         due("told(29)", 9, ten.told(29));
         due("told(30)", OUTSIDE, ten.told(30));
