@@ -25,6 +25,7 @@ public final class BookBoundsTest {
         depthBackToNineSteps();
         depthAtFirst();
         depthNothing();
+        depthBySeveralWays();
         toolsCount();
         toolsOfWhatIsBehind();
         barredOnes();
@@ -314,6 +315,17 @@ public final class BookBoundsTest {
         due("own hands alone, tools or not", 36, x.touched(2, 0));
         x.set(0, 1);
         due("both that it is made from", 39, x.touched(2, 0));
+    }
+
+    private static void depthBySeveralWays() {
+        OthersHands x = Books.bookOf("A;B;aC;bD;cdE;");
+        due("behind both that it is made from", 31, x.touched(4, 0));
+        x.set(0, 1);
+        due("both that it is made from", 28, x.touched(4, 0));
+        OthersHands both = Books.bookOf("A;aB;bC;acD;dE;");
+        due("by the shorter of two ways", 29, both.touched(4, 0));
+        both.set(0, 3);
+        due("by both ways", 31, both.touched(4, 0));
     }
 
     private static void toolsCount() {

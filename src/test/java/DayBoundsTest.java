@@ -220,7 +220,7 @@ public final class DayBoundsTest {
         x.seen(5, 3);
         x.image(0);
         int[] view = view(x);
-        Books.write(x, "F;");
+        Books.write(x, "F;E;");
         x.book();
         x.part(0);
         x.join(1, 2);
@@ -228,7 +228,8 @@ public final class DayBoundsTest {
         x.set(1, 0);
         x.set(2, 0);
         x.loaves(0, 4);
-        x.seen(0, 0);
+        x.seen(0, 1);
+        x.seen(2, 1);
         x.restore(0);
         int[] again = view(x);
         for (int i = 0; i < view.length; i++) {
