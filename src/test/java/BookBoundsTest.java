@@ -83,6 +83,11 @@ public final class BookBoundsTest {
         Books.write(x, "A;B;");
         x.book();
         due("loaves do not come back behind a book without things", 0, x.told(21));
+        OthersHands ten = Books.bookOf(Books.times(10, "A;"));
+        ten.loaves(9, 9);
+        Books.write(ten, Books.times(10, "A;"));
+        ten.book();
+        due("loaves of the tenth go", 0, ten.told(29));
     }
 
     private static void bookKeepsTheRest() {
@@ -158,6 +163,9 @@ public final class BookBoundsTest {
         due("made from h", 7, last.thing(9, 1));
         due("made from i", 8, last.thing(9, 2));
         due("by tool i", 8, last.thing(9, 3));
+        due("all hands of the tenth are told", 0, last.thing(9, 4));
+        OthersHands asked = Books.bookOf(Books.times(9, "A;") + "?;");
+        due("a hand of the tenth is not told", 1, asked.thing(9, 4));
     }
 
     private static void rowsOfAnEarlierBookAreGone() {

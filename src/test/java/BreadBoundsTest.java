@@ -147,6 +147,10 @@ public final class BreadBoundsTest {
         dueFed("ten things, nine loaves each", x, 1, 2, 3, 0, 0, 0);
         due("ten things: lack", NONE, x.lack());
         due("ten things: eaten in 99 days", 90, x.days(0, 99, -1));
+        OthersHands tenth = Books.bookOf(Books.times(9, "A;") + "B;");
+        tenth.loaves(9, 1);
+        dueFed("a loaf of the tenth thing", tenth, 9, NONE, NONE, NONE, NONE, NONE);
+        due("a loaf of the tenth thing: lack", 2, tenth.lack());
     }
 
     private static void lackIsTheLeastAsBits() {
@@ -311,6 +315,7 @@ public final class BreadBoundsTest {
         dueMarried("makers of three", Books.bookOf("AD;BE;CF;"), 0, 3, 4, 5, 0, 1, 2);
         dueMarried("three of one", Books.bookOf("DEF;"), 1, 1, 0, 3, 2, 5, 4);
         dueMarried("more things weigh more", Books.bookOf("AB;AC;AC;"), 2, 2, 3, 0, 1, 5, 4);
+        dueMarried("B's nearest would cost the others more", Books.bookOf("D;D;CE;AF;AF;AF;"), 2, 5, 3, 4, 1, 2, 0);
         dueMarried("all of ten things", Books.bookOf(Books.times(10, "A;")), 10, 1, 0, 3, 2, 5, 4);
     }
 

@@ -18,6 +18,7 @@ public final class DayBoundsTest {
         notYetKept();
         imageLeavesThePadOut();
         imageKeepsAllElse();
+        imageOfTheFullest();
         imageStaysAsItWas();
         imagesAreApart();
         imageOfNothing();
@@ -253,6 +254,38 @@ public final class DayBoundsTest {
         rows[n++] = x.filled(0);
         rows[n++] = x.filled(1);
         return rows;
+    }
+
+    /** The tenth thing and the sixth sight are kept like all others. */
+    private static void imageOfTheFullest() {
+        OthersHands x = Books.bookOf(Books.times(9, "A;") + "ai+bB?;");
+        for (int thing = 0; thing < 10; thing++) {
+            x.loaves(thing, thing);
+        }
+        for (int thing = 0; thing < 5; thing++) {
+            x.seen(1, thing);
+        }
+        x.seen(5, 9);
+        x.image(0);
+        Books.write(x, Books.times(10, "C;"));
+        x.book();
+        for (int thing = 0; thing < 10; thing++) {
+            x.loaves(thing, 1);
+        }
+        for (int sight = 0; sight < 6; sight++) {
+            x.seen(4, 0);
+        }
+        x.restore(0);
+        for (int thing = 0; thing < 10; thing++) {
+            due("loaves of " + thing + " as kept", thing, x.told(20 + thing));
+        }
+        int[] making = {2, 0, 8, 1, 1};
+        for (int what = 0; what < 5; what++) {
+            due("thing(9, " + what + ") as kept", making[what], x.thing(9, what));
+        }
+        due("six sights as kept", 6, x.told(5));
+        due("ways by the sixth sight", 4, x.filled(-1));
+        due("F had the tenth thing", 31, x.sure(9, 1));
     }
 
     private static void imageStaysAsItWas() {

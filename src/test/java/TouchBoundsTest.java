@@ -162,6 +162,7 @@ public final class TouchBoundsTest {
         due("a sixth and thirds at 1", 15, tenthsOf(x, 2, 1));
         due("a sixth at 2", 6, tenthsOf(x, 2, 2));
         due("thirds at 4", 0, tenthsOf(x, 2, 4));
+        due("thirds of the last three men", 56, tenthsOf(Books.bookOf("DEF;"), 0, 3));
     }
 
     private static void tenthsOfLittle() {
